@@ -44,9 +44,16 @@ public final class PartnerStack {
         0x00, 0x00, 0x00, 0x00, 0x00, 0x00, 0x00, 0x00
     };
 
-    /** The format of most operands in memory, by op halved. */
+    /** The format of a code's operand in memory, by op times 8 and r; -1: it is none of a number. */
     private static final int[] OPERAND_FORMATS = {
-        Memory.SHORT, Memory.WHOLE_32, Memory.LONG, Memory.WHOLE_16
+        3, 3, 3, 3, 3, 3, 3, 3,
+        3, -1, 3, 3, -1, -1, -1, -1,
+        1, 1, 1, 1, 1, 1, 1, 1,
+        1, -1, 1, 1, -1, 6, -1, 6,
+        4, 4, 4, 4, 4, 4, 4, 4,
+        4, -1, 4, 4, -1, -1, -1, -1,
+        0, 0, 0, 0, 0, 0, 0, 0,
+        0, -1, 0, 0, 5, 2, 5, 2
     };
 
     /** One, the logarithms of 10 and e by 2, pi, the logarithms of 2 by 10 and e, ZERO. */
@@ -60,12 +67,12 @@ public final class PartnerStack {
     private static final int[] EXAMINED = {8, 12, 0, 4, 5, 1};
     private static final int EXAMINED_EMPTY = 9;
 
-    private final Memory memory = new Memory();
+    private final Memory row = new Memory();
     private final Control control = new Control();
     private final Operation operation = new Operation(control);
     private final Steps steps = new Steps(control);
-    private final Reader reader = new Reader(control, memory);
-    private final Writer writer = new Writer(control, memory);
+    private final Reader reader = new Reader(control, row);
+    private final Writer writer = new Writer(control, row);
     private final Real[] registers = new Real[REGISTERS];
     private final boolean[] empty = new boolean[REGISTERS];
     private final Real left = new Real();
@@ -90,14 +97,14 @@ public final class PartnerStack {
         if (i < 0 || i > Memory.SIZE - 4) {
             throw new IndexOutOfBoundsException("no four bytes from there on");
         }
-        memory.put(i, 4, four);
+        row.put(i, 4, four);
     }
 
     public int byteAt(int i) throws IndexOutOfBoundsException {
         if (i < 0 || i >= Memory.SIZE) {
             throw new IndexOutOfBoundsException("no such byte");
         }
-        return (int) memory.bits(i, 1);
+        return (int) row.bits(i, 1);
     }
 
     public int execute(int op, int code, int codePlace, int operandPlace) throws IllegalArgumentException {
@@ -112,6 +119,8 @@ public final class PartnerStack {
         int r = (code >> 3) & 7;
         if (code < FIRST_REGISTER_CODE) {
             doWithMemory(op, r);
+        } else if (op == 1) {
+            doOwn(r, code & 7);
         } else {
             doWithRegisters(op, r, code & 7);
         }
@@ -226,64 +235,44 @@ public final class PartnerStack {
     }
 
     private void doWithMemory(int op, int r) {
-        int format = OPERAND_FORMATS[op >> 1];
-        if ((op & 1) == 0) {
+        int format = OPERAND_FORMATS[op * 8 + r];
+        if (format < 0) {
+            doWithWords(op, r);
+        } else if ((op & 1) == 0) {
             need(0, left);
             if (!control.ends()) {
                 reader.read(format, right);
             }
             combine(r, 0, r == 3 ? 1 : 0);
-        } else if (r == 0) {
+        } else if (BYTES_MOVED[op * 8 + r] > 0) {
             pushRead(format);
-        } else if (r <= 3) {
-            store(format, r == 3);
         } else {
-            doRareWithMemory(op, r);
+            store(format, r != 2);
         }
     }
 
-    private void doRareWithMemory(int op, int r) {
-        switch (op * 8 + r) {
-            case 8 + 4:
+    /** The codes of op 1 and 5 that move the control, the status, the environment or the whole state. */
+    private void doWithWords(int op, int r) {
+        boolean isShort = op == 1;
+        switch (r) {
+            case 4:
                 readEnvironment();
+                if (!isShort) {
+                    readRegisters();
+                }
                 break;
-            case 8 + 5:
-                control.setting = (int) memory.bits(0, 2);
+            case 5:
+                control.setting = (int) row.bits(0, 2);
                 break;
-            case 8 + 6:
+            case 6:
                 writeEnvironment();
-                break;
-            case 8 + 7:
-                memory.put(0, 2, control.setting);
-                break;
-            case 24 + 5:
-                pushRead(Memory.PATTERN);
-                break;
-            case 24 + 7:
-                store(Memory.PATTERN, true);
-                break;
-            case 40 + 4:
-                restore();
-                break;
-            case 40 + 6:
-                save();
-                break;
-            case 40 + 7:
-                memory.put(0, 2, status());
-                break;
-            case 56 + 4:
-                pushRead(Memory.DECIMALS);
-                break;
-            case 56 + 5:
-                pushRead(Memory.WHOLE_64);
-                break;
-            case 56 + 6:
-                store(Memory.DECIMALS, true);
-                break;
-            case 56 + 7:
-                store(Memory.WHOLE_64, true);
+                if (!isShort) {
+                    writeRegisters();
+                    beInitial();
+                }
                 break;
             default:
+                row.put(0, 2, isShort ? control.setting : status());
                 break;
         }
     }
@@ -294,9 +283,6 @@ public final class PartnerStack {
                 need(0, left);
                 need(i, right);
                 combine(r, 0, r == 3 ? 1 : 0);
-                break;
-            case 1:
-                doOwn(r, i);
                 break;
             case 3:
                 doWithControl(i);
@@ -569,41 +555,38 @@ public final class PartnerStack {
     }
 
     private void writeEnvironment() {
-        memory.put(0, 2, control.setting);
-        memory.put(2, 2, status());
-        memory.put(4, 2, tags());
-        memory.put(6, 2, keptCodePlace);
-        memory.put(8, 2, (keptCodePlace >> 16) << 12 | keptCode);
-        memory.put(10, 2, keptOperandPlace);
-        memory.put(12, 2, (keptOperandPlace >> 16) << 12);
+        row.put(0, 2, control.setting);
+        row.put(2, 2, status());
+        row.put(4, 2, tags());
+        row.put(6, 2, keptCodePlace);
+        row.put(8, 2, (keptCodePlace >> 16) << 12 | keptCode);
+        row.put(10, 2, keptOperandPlace);
+        row.put(12, 2, (keptOperandPlace >> 16) << 12);
     }
 
     private void readEnvironment() {
-        control.setting = (int) memory.bits(0, 2);
-        int seen = (int) memory.bits(2, 2);
+        control.setting = (int) row.bits(0, 2);
+        int seen = (int) row.bits(2, 2);
         toldBefore = seen & Control.ALL;
         conditions = seen & (C0 | C1 | C2 | C3);
         top = (seen >> 11) & 7;
-        int seenTags = (int) memory.bits(4, 2);
+        int seenTags = (int) row.bits(4, 2);
         for (int i = 0; i < REGISTERS; i++) {
             empty[i] = ((seenTags >> (2 * i)) & 3) == 3;
         }
-        int upper = (int) memory.bits(8, 2);
+        int upper = (int) row.bits(8, 2);
         keptCode = upper & 0x7ff;
-        keptCodePlace = (upper >> 12) << 16 | (int) memory.bits(6, 2);
-        keptOperandPlace = (int) (memory.bits(12, 2) >> 12) << 16 | (int) memory.bits(10, 2);
+        keptCodePlace = (upper >> 12) << 16 | (int) row.bits(6, 2);
+        keptOperandPlace = (int) (row.bits(12, 2) >> 12) << 16 | (int) row.bits(10, 2);
     }
 
-    private void save() {
-        writeEnvironment();
+    private void writeRegisters() {
         for (int k = 0; k < REGISTERS; k++) {
             writer.writePattern(ENVIRONMENT_SIZE + k * PATTERN_SIZE, registers[place(k)]);
         }
-        beInitial();
     }
 
-    private void restore() {
-        readEnvironment();
+    private void readRegisters() {
         for (int k = 0; k < REGISTERS; k++) {
             reader.readPattern(ENVIRONMENT_SIZE + k * PATTERN_SIZE, registers[place(k)]);
         }
@@ -758,7 +741,9 @@ public final class PartnerStack {
         }
 
         void take(Real other) {
-            set(other.minus, other.power, other.fraction);
+            minus = other.minus;
+            power = other.power;
+            fraction = other.fraction;
         }
 
         /** Takes the one of a and b that is no number and goes before the other; false if there is none. */
@@ -1119,7 +1104,8 @@ public final class PartnerStack {
             } else if (a.isInfinite() || b.isInfinite()) {
                 answerInfinite(kind, a, b, answer);
             } else {
-                answerNumber(kind, a, b, answer);
+                boolean minus = findSize(kind, a, b);
+                maker.make(x, minus, control.digits(), answer);
             }
         }
 
@@ -1150,21 +1136,25 @@ public final class PartnerStack {
             }
         }
 
-        private void answerNumber(int kind, Real a, Real b, Real answer) {
-            boolean minus = a.minus != b.minus;
+        /** Leaves the exact size of the answer in x, and answers its sign. */
+        private boolean findSize(int kind, Real a, Real b) {
             x.load(a);
             y.load(b);
-            if (kind == SUM || kind == DIFFERENCE) {
-                minus = addWithSigns(a.minus, b.minus != (kind == DIFFERENCE));
-            } else if (kind == PRODUCT) {
-                x.multiply(y);
-            } else if (kind == QUOTIENT) {
-                x.divide(y);
-            } else {
-                minus = a.minus;
-                x.root();
+            switch (kind) {
+                case SUM:
+                    return addWithSigns(a.minus, b.minus);
+                case DIFFERENCE:
+                    return addWithSigns(a.minus, !b.minus);
+                case PRODUCT:
+                    x.multiply(y);
+                    return a.minus != b.minus;
+                case QUOTIENT:
+                    x.divide(y);
+                    return a.minus != b.minus;
+                default:
+                    x.root();
+                    return a.minus;
             }
-            maker.make(x, minus, control.digits(), answer);
         }
 
         /** Leaves the sum's size in x, and answers its sign. */
@@ -1349,30 +1339,30 @@ public final class PartnerStack {
         private static final int DECIMAL_DIGITS = 18;
 
         private final Control control;
-        private final Memory memory;
+        private final Memory row;
         private final Size size = new Size();
 
-        Reader(Control control, Memory memory) {
+        Reader(Control control, Memory row) {
             this.control = control;
-            this.memory = memory;
+            this.row = row;
         }
 
         void read(int format, Real into) {
             switch (format) {
                 case Memory.WHOLE_16:
-                    readWhole((short) memory.bits(0, 2), into);
+                    readWhole((short) row.bits(0, 2), into);
                     break;
                 case Memory.WHOLE_32:
-                    readWhole((int) memory.bits(0, 4), into);
+                    readWhole((int) row.bits(0, 4), into);
                     break;
                 case Memory.WHOLE_64:
-                    readWhole(memory.bits(0, 8), into);
+                    readWhole(row.bits(0, 8), into);
                     break;
                 case Memory.SHORT:
-                    readFloating(memory.bits(0, 4) << 32, 8, into);
+                    readFloating(row.bits(0, 4) << 32, 8, into);
                     break;
                 case Memory.LONG:
-                    readFloating(memory.bits(0, 8), 11, into);
+                    readFloating(row.bits(0, 8), 11, into);
                     break;
                 case Memory.DECIMALS:
                     readDecimals(into);
@@ -1384,8 +1374,8 @@ public final class PartnerStack {
         }
 
         void readPattern(int from, Real into) {
-            int top = (int) memory.bits(from + 8, 2);
-            into.set(top >= 0x8000, top & 0x7fff, memory.bits(from, 8));
+            int top = (int) row.bits(from + 8, 2);
+            into.set(top >= 0x8000, top & 0x7fff, row.bits(from, 8));
         }
 
         private void readWhole(long whole, Real into) {
@@ -1395,9 +1385,9 @@ public final class PartnerStack {
         private void readDecimals(Real into) {
             long digits = 0;
             for (int i = DECIMAL_DIGITS - 1; i >= 0; i--) {
-                digits = digits * 10 + (memory.bits(i >> 1, 1) >> (4 * (i & 1)) & 15);
+                digits = digits * 10 + (row.bits(i >> 1, 1) >> (4 * (i & 1)) & 15);
             }
-            putNumber(memory.bits(9, 1) >= 0x80, digits, 0, into);
+            putNumber(row.bits(9, 1) >= 0x80, digits, 0, into);
         }
 
         /** A SHORT one stands in the upper half of the pattern, so that both have the sign highest. */
@@ -1434,15 +1424,17 @@ public final class PartnerStack {
         private static final int DECIMAL_BYTES = 9;
 
         private final Control control;
-        private final Memory memory;
+        private final Memory row;
+        /** That of the real that is being written; of what has no size it is not looked at. */
         private final Size size = new Size();
 
-        Writer(Control control, Memory memory) {
+        Writer(Control control, Memory row) {
             this.control = control;
-            this.memory = memory;
+            this.row = row;
         }
 
         void write(int format, Real real) {
+            size.load(real);
             switch (format) {
                 case Memory.WHOLE_16:
                     writeWhole(2, real);
@@ -1469,8 +1461,8 @@ public final class PartnerStack {
         }
 
         void writePattern(int from, Real real) {
-            memory.put(from, 8, real.fraction);
-            memory.put(from + 8, 2, real.top());
+            row.put(from, 8, real.fraction);
+            row.put(from + 8, 2, real.top());
         }
 
         private void writeWhole(int count, Real real) {
@@ -1483,7 +1475,7 @@ public final class PartnerStack {
                 control.tell(Control.INVALID);
             }
             if (!control.endsWriting()) {
-                memory.put(0, count, whole);
+                row.put(0, count, whole);
             }
         }
 
@@ -1494,11 +1486,7 @@ public final class PartnerStack {
 
         /** Leaves the whole number in size.kept; false when 64 bits do not hold it. */
         private boolean roundToWhole(Real real, int rounding) {
-            if (real.power == Real.HIGHEST_POWER) {
-                return false;
-            }
-            size.load(real);
-            if (size.exponent() > 63) {
+            if (real.power == Real.HIGHEST_POWER || size.exponent() > 63) {
                 return false;
             }
             size.round(-size.unit, rounding, real.minus);
@@ -1513,17 +1501,17 @@ public final class PartnerStack {
                 return;
             }
             if (!fits) {
-                memory.put(0, 8, 0xc0L << 56);
-                memory.put(8, 2, 0xffff);
+                row.put(0, 8, 0xc0L << 56);
+                row.put(8, 2, 0xffff);
                 return;
             }
             long left = size.kept;
             for (int i = 0; i < DECIMAL_BYTES; i++) {
                 int two = (int) (left % 100);
-                memory.put(i, 1, two / 10 << 4 | two % 10);
+                row.put(i, 1, two / 10 << 4 | two % 10);
                 left /= 100;
             }
-            memory.put(DECIMAL_BYTES, 1, real.minus ? 0x80 : 0);
+            row.put(DECIMAL_BYTES, 1, real.minus ? 0x80 : 0);
         }
 
         private void writeFloating(int count, int digits, Real real) {
@@ -1547,13 +1535,12 @@ public final class PartnerStack {
                 pattern = numberPattern(real, digits, 1 << (8 * count - digits - 1), allOnes);
             }
             if (!control.endsWriting()) {
-                memory.put(0, count, pattern | (minus ? 1L << (8 * count - 1) : 0));
+                row.put(0, count, pattern | (minus ? 1L << (8 * count - 1) : 0));
             }
         }
 
         /** The pattern without its sign; limit is the exponent that is too great. */
         private long numberPattern(Real real, int digits, int limit, long allOnes) {
-            size.load(real);
             int exponent = size.exponent();
             if (exponent < 2 - limit) {
                 size.round(3 - limit - digits - size.unit, control.rounding(), real.minus);
