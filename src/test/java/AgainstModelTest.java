@@ -54,7 +54,7 @@ public final class AgainstModelTest {
     }
 
     private static int power(int near) {
-        switch (next(6)) {
+        switch (next(10)) {
             case 0:
                 return next(32768);
             case 1:
@@ -65,6 +65,10 @@ public final class AgainstModelTest {
                 return Math.max(0, Math.min(32767, near + next(5) - 2));
             case 4:
                 return 16383 + next(70) - 3;
+            case 5:
+                return 32767;
+            case 6:
+                return next(3);
             default:
                 return next(4) == 0 ? POWERS[next(POWERS.length)] : 16383 + next(20);
         }
@@ -231,7 +235,7 @@ public final class AgainstModelTest {
 
     public static void main(String[] args) {
         int times = args.length > 0 ? Integer.parseInt(args[0]) : 1;
-        for (int round = 0; round < 6 * times; round++) {
+        for (int round = 0; round < 12 * times; round++) {
             for (int op = 0; op < 8; op++) {
                 for (int code = 0; code < 256; code++) {
                     trial(op, code);
@@ -239,7 +243,7 @@ public final class AgainstModelTest {
             }
         }
         int[] steps = {0xf0, 0xf4, 0xf8, 0xfa, 0xfc, 0xfd, 0xe4, 0xe5};
-        for (int round = 0; round < 4000 * times; round++) {
+        for (int round = 0; round < 12000 * times; round++) {
             trial(2 * next(4), next(192));
             trial(0, 192 + next(64));
             trial(4 + 2 * next(2), 192 + next(64));
@@ -247,7 +251,7 @@ public final class AgainstModelTest {
             trial(1 + 2 * next(4), 8 * (2 + next(2)) + next(8));
             trial(7, 8 * (4 + next(4)));
         }
-        for (int round = 0; round < 1500 * times; round++) {
+        for (int round = 0; round < 3000 * times; round++) {
             run(30);
         }
         System.out.println(done + " runs, " + wrong + " wrong answers");

@@ -252,6 +252,8 @@ public final class PromisesTest {
         first("0 / 0 unnormal", MINUS | INFINITE, QUIET, 1);
         answer(0x37f, DIVIDE, 0x3fff, TOP, 0x4000, 1);
         first("by an unnormal one", MINUS | INFINITE, QUIET, 1);
+        answer(0x37f, DIVIDE, 0x3fff, TOP, 1, 1);
+        first("by an unnormal one of power 1", MINUS | INFINITE, QUIET, 1);
         answer(0x37f, DIVIDE, 0x4000, 1, 0x3fff, TOP);
         first("an unnormal one by 1", 0x4000 - 63, TOP, 0);
         answer(0x37f, TIMES, 0, 1, 0x3fff, TOP);
@@ -454,6 +456,7 @@ public final class PromisesTest {
         compared("infinite, one of them", 0x37f, INFINITE, TOP, 0x3fff, TOP, 0x4500);
         compared("two infinite, one number", 0x37f, INFINITE, TOP, MINUS | INFINITE, 0, 0x4000);
         compared("two infinite, two numbers", 0x137f, INFINITE, TOP, MINUS | INFINITE, 0, 0);
+        compared("1 and infinite", 0x137f, 0x3fff, TOP, INFINITE, TOP, 0x100);
         compared("infinite and 1", 0x137f, MINUS | INFINITE, TOP, 0x3fff, TOP, 0x100);
         fresh(0x37d);
         push(0, 1);
@@ -548,6 +551,7 @@ public final class PromisesTest {
         written("unnormal", 0x37f, WRITE_SHORT, 0x3fff, 1, rest32 | 0xffc00000L, 1);
         written("unnormal LONG", 0x37f, WRITE_LONG, 0x3fff, 1, 0xfff8000000000000L, 1);
         written("no number, lower bits alone", 0x37f, WRITE_SHORT, INFINITE, TOP | 1, rest32 | 0x7f800001L, 1);
+        written("no number SHORT", 0x37f, WRITE_SHORT, INFINITE, QUIET, rest32 | 0x7fc00000L, 1);
         written("no number LONG", 0x37f, WRITE_LONG, MINUS | INFINITE, QUIET, 0xfff8000000000000L, 1);
         written("infinite LONG", 0x37f, WRITE_LONG, MINUS | INFINITE, 0, 0xfff0000000000000L, 0);
         written("least SHORT", 0x37f, WRITE_SHORT, 0x3fff - 149, TOP, rest32 | 1, 0);
