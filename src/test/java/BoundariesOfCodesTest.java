@@ -209,12 +209,14 @@ public final class BoundariesOfCodesTest extends Bench {
         given(N64 & ~DENORMAL);
         put(0, 4, 1);
         ends(0x000, INVALID | DENORMAL);
-        given(N64 & ~DENORMAL, "7fff:c");
-        put(0, 8, 1);
-        ends(0x418, DENORMAL);
-        given(N64 & ~INVALID, "7fff:c");
-        put(0, 8, 1);
-        ends(0x418, DENORMAL | INVALID);
+        for (int r = 0; r < 8; r++) {
+            given(N64 & ~DENORMAL, "7fff:c");
+            put(0, 8, 1);
+            ends(0x400 | r << 3, DENORMAL);
+            given(N64 & ~INVALID, "7fff:c");
+            put(0, 8, 1);
+            ends(0x400 | r << 3, DENORMAL | INVALID);
+        }
         given(N64 & ~DIVISION, "0");
         put(0, 8, 1);
         ends(0x438, DENORMAL | DIVISION);

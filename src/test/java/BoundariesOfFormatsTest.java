@@ -344,6 +344,8 @@ public final class BoundariesOfFormatsTest extends Bench {
         writes(N64, WRITE_LONG, "43fe:fffffffffffffc", 0x7ff0000000000000L, OVER | LOSS);
         writes(N64, WRITE_LONG, "43fe:fffffffffffffc-1", 0x7fefffffffffffffL, LOSS);
         writes(N64, WRITE_LONG, "2^1024", 0x7ff0000000000000L, OVER | LOSS);
+        writes(N64, WRITE_LONG, "43ff:0-1", 0x7ff0000000000000L, OVER | LOSS);
+        writes(N64, WRITE_SHORT, "407f:0-1", 0x7f800000, OVER | LOSS);
         writes(N64 | DOWN, WRITE_LONG, "-2^1024", 0xfff0000000000000L, OVER | LOSS);
         writes(N64 | UP, WRITE_LONG, "2^1024", 0x7ff0000000000000L, OVER | LOSS);
         sentence("or else the greatest one");

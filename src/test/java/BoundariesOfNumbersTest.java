@@ -208,6 +208,10 @@ public final class BoundariesOfNumbersTest extends Bench {
             gives(N64 | CHOP, ROOT, from[i], null, lower[i], LOSS);
             gives(N64 | UP, ROOT, from[i], null, upper[i], LOSS);
         }
+        // e = 2^-31 - 2^-62 has (1 + e)^2 just below 1 + 2 e + 2^-62: that one's root is 1 + e and 2^-93 or so.
+        gives(N64, ROOT, "3fff:80000001fffffffe", null, "3fff:80000000fffffffe", LOSS);
+        gives(N64 | CHOP, ROOT, "3fff:80000001fffffffe", null, "3fff:80000000fffffffe", LOSS);
+        gives(N64 | UP, ROOT, "3fff:80000001fffffffe", null, "3fff:80000000ffffffff", LOSS);
         // To 128 digits: b504f333f9de6484 597d89b3754abe9f, ddb3d742c265539d 92ba16b83c5c1dc4.
         gives(N64, ROOT, "2", null, "3fff:b504f333f9de6484", LOSS);
         gives(N64 | UP, ROOT, "2", null, "3fff:b504f333f9de6485", LOSS);
